@@ -1,0 +1,53 @@
+/** Counts the calls whose answer is not the one that is due, and prints each of them. */
+final class Check {
+
+    private final String test;
+    private int asked;
+    private int wrong;
+
+    Check(String test) {
+        this.test = test;
+    }
+
+    void due(String call, long got, long want) {
+        asked++;
+        if (got != want) {
+            wrong++;
+            System.out.println(test + ": " + call + " answered " + got + ", due is " + want);
+        }
+    }
+
+    void due(String call, boolean got, boolean want) {
+        due(call, got ? 1L : 0L, want ? 1L : 0L);
+    }
+
+    void wrongArgument(String call, Runnable run) {
+        dueThrow(call, run, IllegalArgumentException.class);
+    }
+
+    void wrongState(String call, Runnable run) {
+        dueThrow(call, run, IllegalStateException.class);
+    }
+
+    private void dueThrow(String call, Runnable run, Class<? extends RuntimeException> want) {
+        asked++;
+        RuntimeException thrown = null;
+        try {
+            run.run();
+        } catch (RuntimeException e) {
+            thrown = e;
+        }
+        if (thrown == null || thrown.getClass() != want) {
+            wrong++;
+            System.out.println(test + ": " + call + " threw " + thrown + ", due is " + want.getName());
+        }
+    }
+
+    /** Ends the test's program with 1 if an answer was wrong. */
+    void end() {
+        System.out.println(test + ": " + asked + " answers, " + wrong + " wrong");
+        if (wrong > 0 || asked == 0) {
+            System.exit(1);
+        }
+    }
+}

@@ -1,0 +1,242 @@
+/** Promise 7: tick, and with it the growing old, the telling again, the forgetting and the receiving. */
+public final class TickTest {
+
+    private static final Check CHECK = new Check("TickTest");
+
+    public static void main(String[] args) {
+        answersTheTime();
+        refusesWrongNumbers();
+        newsGrowsOld();
+        nodesTellAgainAt40();
+        newsIsForgottenAt60();
+        newsInFlightIsGoneAt60();
+        forgettingComesBeforeReceiving();
+        newsFloodsFromHopToHop();
+        olderNewsIsAnsweredWithNewer();
+        newerNewsTakesThePlaceInFlight();
+        sameNewsInFlightIsNotSentAgain();
+        newsThatNoMoreArrivesIsNotReceived();
+        newsIsReceivedBeforePackets();
+        CHECK.end();
+    }
+
+    private static void answersTheTime() {
+        FloodingNet net = new FloodingNet();
+        CHECK.due("tick(1)", net.tick(1), 1);
+        CHECK.due("tick(50)", net.tick(50), 51);
+        CHECK.due("tick(7)", net.tick(7), 58);
+    }
+
+    private static void refusesWrongNumbers() {
+        FloodingNet net = Nets.nodes(1);
+        for (int n : new int[] {0, -1, 51, Integer.MIN_VALUE, Integer.MAX_VALUE}) {
+            CHECK.wrongArgument("tick(" + n + ")", () -> net.tick(n));
+        }
+        CHECK.due("no time went by", net.news(0, 0, 1), 0);
+        CHECK.due("tick(1)", net.tick(1), 1);
+    }
+
+    private static void newsGrowsOld() {
+        FloodingNet net = Nets.nodes(2);
+        net.link(0, 1, 1, 5);
+        net.tick(4);
+        CHECK.due("known news is 4 old", net.news(0, 0, 1), 4);
+        net.tick(1);
+        CHECK.due("news grew old in flight", net.news(1, 0, 1), 5);
+        net.tick(34);
+        CHECK.due("39 old", net.news(1, 0, 1), 39);
+    }
+
+    private static void nodesTellAgainAt40() {
+        FloodingNet net = Nets.nodes(2);
+        net.link(0, 1, 1, 3);
+        net.tick(39);
+        CHECK.due("no new news at 39", net.news(0, 0, 0), 2);
+        CHECK.due("39 old", net.news(0, 0, 1), 39);
+        net.tick(1);
+        CHECK.due("new news at 40", net.news(0, 0, 0), 3);
+        CHECK.due("which is 0 old", net.news(0, 0, 1), 0);
+        CHECK.due("1 told too", net.news(1, 1, 0), 3);
+        CHECK.due("both fly", net.flying(), 2);
+        CHECK.due("1 knows the old one", net.news(1, 0, 1), 40);
+        net.tick(3);
+        CHECK.due("1 knows the new one", net.news(1, 0, 1), 3);
+        CHECK.due("tick(37)", net.tick(37), 80);
+        CHECK.due("and again at 80", net.news(0, 0, 0), 4);
+    }
+
+    private static void newsIsForgottenAt60() {
+        FloodingNet net = Nets.nodes(2);
+        net.link(0, 1, 1, 1);
+        net.tick(1);
+        net.crash(1);
+        net.tick(50);
+        net.tick(8);
+        CHECK.due("news of 1 is 59 old", net.news(0, 1, 1), 59);
+        CHECK.due("0 told again at 41", net.news(0, 0, 1), 18);
+        net.tick(1);
+        CHECK.due("news of 1 is forgotten", net.news(0, 1, 0), -1);
+        CHECK.due("nothing of it is left", net.news(0, 1, 10), -1);
+        CHECK.due("news of 0 itself is not", net.news(0, 0, 0), 4);
+    }
+
+    /** 0 knows news of the gone node 2 that is 55 old, and sends it to 1 over a link of delay 8. */
+    private static FloodingNet oldNewsInFlight() {
+        FloodingNet net = Nets.nodes(3);
+        net.link(0, 2, 1, 1);
+        net.tick(1);
+        net.crash(2);
+        net.tick(50);
+        net.tick(4);
+        net.link(0, 1, 1, 8);
+        return net;
+    }
+
+    private static void newsInFlightIsGoneAt60() {
+        FloodingNet net = oldNewsInFlight();
+        CHECK.due("news of 0, 1 and 2 flies", net.flying(), 3);
+        net.tick(4);
+        CHECK.due("still at 59", net.flying(), 3);
+        net.tick(1);
+        CHECK.due("no more at 60", net.flying(), 2);
+        net.tick(3);
+        CHECK.due("1 never heard of 2", net.news(1, 2, 0), -1);
+    }
+
+    private static void forgettingComesBeforeReceiving() {
+        FloodingNet net = Nets.nodes(3);
+        net.link(0, 2, 1, 1);
+        net.tick(1);
+        net.crash(2);
+        net.tick(50);
+        net.tick(4);
+        net.link(0, 1, 1, 5);
+        net.tick(5);
+        CHECK.due("news that is 60 old when it arrives is gone", net.news(1, 2, 0), -1);
+
+        FloodingNet sooner = Nets.nodes(3);
+        sooner.link(0, 2, 1, 1);
+        sooner.tick(1);
+        sooner.crash(2);
+        sooner.tick(50);
+        sooner.tick(4);
+        sooner.link(0, 1, 1, 4);
+        sooner.tick(4);
+        CHECK.due("news that is 59 old is received", sooner.news(1, 2, 1), 59);
+    }
+
+    private static void newsFloodsFromHopToHop() {
+        FloodingNet net = Nets.row(4);
+        net.link(0, 4, 9, 1);
+        net.start(4);
+        net.tick(1);
+        CHECK.due("1 heard of 0's new link", net.news(1, 0, 14), 9);
+        CHECK.due("2 did not yet", net.news(2, 0, 14), 0);
+        net.tick(1);
+        CHECK.due("2 heard", net.news(2, 0, 14), 9);
+        CHECK.due("with its age", net.news(2, 0, 1), 2);
+        CHECK.due("news of 0 flies to 3, news of 4 to 2", net.flying(), 2);
+        net.tick(1);
+        CHECK.due("3 heard", net.news(3, 0, 14), 9);
+        CHECK.due("3 has nobody to send it to", net.flying(), 1);
+        net.tick(1);
+        CHECK.due("3 heard of 4", net.news(3, 4, 0), 1);
+        CHECK.due("nothing flies back", net.flying(), 0);
+    }
+
+    private static void olderNewsIsAnsweredWithNewer() {
+        FloodingNet net = Nets.row(3);
+        // 2 is cut off and keeps its news of 0, while 0 tells again because of its link to 4.
+        net.fail(1, 2);
+        net.link(0, 4, 1, 1);
+        net.start(4);
+        net.tick(5);
+        CHECK.due("1 knows the newer news of 0", net.news(1, 0, 0), 3);
+        CHECK.due("2 knows the older", net.news(2, 0, 0), 2);
+        net.restore(1, 2);
+        // 1 tells 0 and 2 and sends 2 its news of 0, 2, 4; 2 tells 1 and sends it its news of 0, 1.
+        CHECK.due("flying", net.flying(), 8);
+        net.tick(1);
+        CHECK.due("2 knows the newer", net.news(2, 0, 0), 3);
+        CHECK.due("1 keeps the newer", net.news(1, 0, 0), 3);
+        // 0 sends 4 the news of 1, 1 sends 0 that of 2, and 1 answers 2's older news of 0.
+        CHECK.due("the answer flies", net.flying(), 3);
+        net.tick(1);
+        CHECK.due("it is known already and goes nowhere", net.flying(), 1);
+        net.tick(1);
+        CHECK.due("settled", net.settled(), true);
+    }
+
+    /** 0 - 1 with delay 8: 0 tells (2) as the link comes up, and once more (3) as 2 comes. */
+    private static void newerNewsTakesThePlaceInFlight() {
+        FloodingNet net = Nets.nodes(2);
+        net.link(0, 1, 1, 8);
+        net.link(0, 2, 1, 1);
+        net.tick(3);
+        CHECK.due("flying", net.flying(), 2);
+        net.start(2);
+        CHECK.due("in place of what was there", net.flying(), 4);
+        net.tick(5);
+        CHECK.due("1 did not hear at 8", net.news(1, 0, 0), -1);
+        net.tick(2);
+        CHECK.due("nor at 10", net.news(1, 0, 0), -1);
+        net.tick(1);
+        CHECK.due("but at 11", net.news(1, 0, 0), 3);
+    }
+
+    private static void sameNewsInFlightIsNotSentAgain() {
+        // As the link comes up, 0 tells and then sends all it knows: its own news flies already.
+        FloodingNet net = Nets.nodes(2);
+        net.link(0, 1, 1, 4);
+        CHECK.due("each flies once", net.flying(), 2);
+        net.tick(4);
+        CHECK.due("none arrives later", net.flying(), 0);
+
+        // 3 hears of 0 over 1 and over 2 and sends it to 4; the second time it knows it and sends none.
+        FloodingNet two = Nets.diamond();
+        two.link(3, 4, 1, 3);
+        two.start(4);
+        two.tick(10);
+        two.link(0, 5, 1, 8);
+        two.start(5);
+        two.tick(2);
+        CHECK.due("3 knows the new news of 0", two.news(3, 0, 15), 1);
+        // Five from 0 to 5 and one back; from 3 one to 4 and one to 2, as it came over 1 first.
+        CHECK.due("flying", two.flying(), 8);
+    }
+
+    private static void newsThatNoMoreArrivesIsNotReceived() {
+        FloodingNet net = Nets.nodes(4);
+        net.link(0, 1, 1, 1);
+        net.link(1, 2, 1, 2);
+        net.link(0, 3, 1, 8);
+        net.tick(20);
+        CHECK.due("2 knows number 3 of 0", net.news(2, 0, 0), 3);
+        net.fail(0, 3);
+        net.tick(2);
+        net.restore(0, 3);
+        net.tick(1);
+        // Number 4 was to arrive at 2 now, but 1 has just received number 5 and sent it in its place.
+        CHECK.due("1 knows number 5", net.news(1, 0, 0), 5);
+        CHECK.due("2 still knows number 3", net.news(2, 0, 0), 3);
+        net.tick(1);
+        CHECK.due("nor a tick later", net.news(2, 0, 0), 3);
+        net.tick(1);
+        CHECK.due("2 knows number 5", net.news(2, 0, 0), 5);
+    }
+
+    private static void newsIsReceivedBeforePackets() {
+        // 1 hears that 2 - 3 failed in the very tick in which the packet for 3 reaches it.
+        FloodingNet net = Nets.row(4);
+        net.link(1, 4, 20, 1);
+        net.link(4, 3, 20, 1);
+        net.start(4);
+        net.tick(10);
+        net.send(0, 3, 9);
+        net.fail(2, 3);
+        net.tick(1);
+        net.tick(2);
+        CHECK.due("the packet took the other way", net.packet(0, 0), 1);
+        CHECK.due("over 4", net.packet(0, 12), 4);
+    }
+}
