@@ -186,6 +186,22 @@ public final class AnswersTest {
         net.start(2);
         net.start(3);
         CHECK.due("news flies elsewhere", net.settled(), false);
+
+        // In a triangle all have heard of all after a tick, while each sends on what it heard.
+        FloodingNet triangle = Nets.nodes(3);
+        triangle.link(0, 1, 1, 1);
+        triangle.link(1, 2, 1, 1);
+        triangle.link(0, 2, 1, 1);
+        triangle.tick(1);
+        for (int node = 0; node < 3; node++) {
+            for (int origin = 0; origin < 3; origin++) {
+                CHECK.due("all know all", triangle.news(node, origin, 0), 3);
+            }
+        }
+        CHECK.due("six fly", triangle.flying(), 6);
+        CHECK.due("so it is not settled", triangle.settled(), false);
+        triangle.tick(1);
+        CHECK.due("now it is", triangle.settled(), true);
     }
 
     private static void settledLooksAtJoinedNodesAlone() {

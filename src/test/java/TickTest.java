@@ -15,6 +15,8 @@ public final class TickTest {
         olderNewsIsAnsweredWithNewer();
         newerNewsTakesThePlaceInFlight();
         sameNewsInFlightIsNotSentAgain();
+        sameNewsInFlightKeepsItsTime();
+        tellingAgainComesBeforeReceiving();
         newsThatNoMoreArrivesIsNotReceived();
         newsIsReceivedBeforePackets();
         CHECK.end();
@@ -203,6 +205,54 @@ public final class TickTest {
         CHECK.due("3 knows the new news of 0", two.news(3, 0, 15), 1);
         // Five from 0 to 5 and one back; from 3 one to 4 and one to 2, as it came over 1 first.
         CHECK.due("flying", two.flying(), 8);
+    }
+
+    private static void sameNewsInFlightKeepsItsTime() {
+        FloodingNet net = Nets.nodes(4);
+        net.link(1, 2, 1, 4);
+        net.link(2, 3, 1, 1);
+        net.tick(10);
+        net.fail(1, 2);
+        net.link(3, 4, 1, 1);
+        net.start(4);
+        net.tick(5);
+        CHECK.due("1 knows older news of 3", net.news(1, 3, 0), 2);
+        net.restore(1, 2);
+        net.tick(4);
+        // 2 received the older news first and would answer it, but its own was in flight until then.
+        CHECK.due("1 knows the newer in time", net.news(1, 3, 0), 3);
+    }
+
+    /**
+     * 2 came anew and is at number 3; its old number 4, which 0 kept, reaches it when its news is 40 old. It
+     * tells first, with the number 4: so what it receives is not greater.
+     */
+    private static void tellingAgainComesBeforeReceiving() {
+        FloodingNet net = Nets.nodes(3);
+        net.link(0, 1, 1, 1);
+        net.link(1, 2, 1, 1);
+        net.fail(1, 2);
+        net.restore(1, 2);
+        net.tick(5);
+        CHECK.due("0 knows number 4 of 2", net.news(0, 2, 0), 4);
+        net.fail(0, 1);
+        net.crash(1);
+        net.crash(2);
+        net.start(1);
+        net.start(2);
+        net.fail(1, 2);
+        net.restore(1, 2);
+        CHECK.due("2 is at number 3", net.news(2, 2, 0), 3);
+        net.tick(38);
+        net.restore(0, 1);
+        net.tick(1);
+        CHECK.due("1 took the old number 4", net.news(1, 2, 1), 44);
+        CHECK.due("2 is still at number 3", net.news(2, 2, 1), 39);
+        net.tick(1);
+        CHECK.due("2 told again", net.news(2, 2, 1), 0);
+        CHECK.due("with the number 4", net.news(2, 2, 0), 4);
+        net.tick(2);
+        CHECK.due("and no more", net.news(2, 2, 0), 4);
     }
 
     private static void newsThatNoMoreArrivesIsNotReceived() {
