@@ -82,20 +82,20 @@ public final class TickTest {
         CHECK.due("news of 0 itself is not", net.news(0, 0, 0), 4);
     }
 
-    /** 0 knows news of the gone node 2 that is 55 old, and sends it to 1 over a link of delay 8. */
-    private static FloodingNet oldNewsInFlight() {
+    /** 0 knows news of the gone node 2 that is 55 old, and sends it to 1 over a new link. */
+    private static FloodingNet oldNewsInFlight(int delay) {
         FloodingNet net = Nets.nodes(3);
         net.link(0, 2, 1, 1);
         net.tick(1);
         net.crash(2);
         net.tick(50);
         net.tick(4);
-        net.link(0, 1, 1, 8);
+        net.link(0, 1, 1, delay);
         return net;
     }
 
     private static void newsInFlightIsGoneAt60() {
-        FloodingNet net = oldNewsInFlight();
+        FloodingNet net = oldNewsInFlight(8);
         CHECK.due("news of 0, 1 and 2 flies", net.flying(), 3);
         net.tick(4);
         CHECK.due("still at 59", net.flying(), 3);
@@ -106,25 +106,13 @@ public final class TickTest {
     }
 
     private static void forgettingComesBeforeReceiving() {
-        FloodingNet net = Nets.nodes(3);
-        net.link(0, 2, 1, 1);
-        net.tick(1);
-        net.crash(2);
-        net.tick(50);
-        net.tick(4);
-        net.link(0, 1, 1, 5);
-        net.tick(5);
-        CHECK.due("news that is 60 old when it arrives is gone", net.news(1, 2, 0), -1);
+        FloodingNet late = oldNewsInFlight(5);
+        late.tick(5);
+        CHECK.due("news that is 60 old when it arrives is gone", late.news(1, 2, 0), -1);
 
-        FloodingNet sooner = Nets.nodes(3);
-        sooner.link(0, 2, 1, 1);
-        sooner.tick(1);
-        sooner.crash(2);
-        sooner.tick(50);
-        sooner.tick(4);
-        sooner.link(0, 1, 1, 4);
-        sooner.tick(4);
-        CHECK.due("news that is 59 old is received", sooner.news(1, 2, 1), 59);
+        FloodingNet inTime = oldNewsInFlight(4);
+        inTime.tick(4);
+        CHECK.due("news that is 59 old is received", inTime.news(1, 2, 1), 59);
     }
 
     private static void newsFloodsFromHopToHop() {
