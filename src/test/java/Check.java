@@ -2,6 +2,7 @@
 final class Check {
 
     private final String test;
+    private String sentence = "";
     private int asked;
     private int wrong;
 
@@ -9,16 +10,32 @@ final class Check {
         this.test = test;
     }
 
+    /** What lies just outside lowest .. highest, and the smallest and the largest int. */
+    static int[] outside(int lowest, int highest) {
+        return new int[] {lowest - 1, highest + 1, Integer.MIN_VALUE, Integer.MAX_VALUE};
+    }
+
+    /** The document's words that the next calls are about; they stand before what is wrong. */
+    void sentence(String words) {
+        sentence = " [" + words + "]";
+    }
+
     void due(String call, long got, long want) {
         asked++;
         if (got != want) {
-            wrong++;
-            System.out.println(test + ": " + call + " answered " + got + ", due is " + want);
+            tellWrong(call + " answered " + got + ", due is " + want);
         }
     }
 
     void due(String call, boolean got, boolean want) {
         due(call, got ? 1L : 0L, want ? 1L : 0L);
+    }
+
+    void due(String call, String got, String want) {
+        asked++;
+        if (!got.equals(want)) {
+            tellWrong(call + " answered " + got + ", due is " + want);
+        }
     }
 
     void wrongArgument(String call, Runnable run) {
@@ -38,9 +55,13 @@ final class Check {
             thrown = e;
         }
         if (thrown == null || thrown.getClass() != want) {
-            wrong++;
-            System.out.println(test + ": " + call + " threw " + thrown + ", due is " + want.getName());
+            tellWrong(call + " threw " + thrown + ", due is " + want.getName());
         }
+    }
+
+    private void tellWrong(String what) {
+        wrong++;
+        System.out.println(test + sentence + ": " + what);
     }
 
     /** Ends the test's program with 1 if an answer was wrong. */

@@ -1,98 +1,18 @@
-/** Promises 1 to 4: a new object, link, fail, restore. */
+/** Promises 2 to 4: link, fail, restore. */
 public final class LinksTest {
 
     private static final Check CHECK = new Check("LinksTest");
 
     public static void main(String[] args) {
-        newObject();
-        linkCounts();
-        linkRefusesWrongArguments();
-        linkRefusesInWrongState();
-        linkTestsArgumentsFirst();
-        linkThatThrowsChangesNothing();
         linkComesUp();
         linkExchangesDatabases();
         linkWithoutBothNodesIsSilent();
         failTellsAndEmpties();
         failLosesPackets();
         failOfALinkThatDoesNotCarry();
-        failAndRestoreNeedALink();
         restoreTellsAndExchanges();
         restoreOfALinkThatDoesNotCarry();
         CHECK.end();
-    }
-
-    private static void newObject() {
-        FloodingNet net = new FloodingNet();
-        CHECK.due("NONE", FloodingNet.NONE, -1);
-        for (int node = 0; node < 8; node++) {
-            CHECK.due("new: news(n, n, 0)", net.news(node, node, 0), -1);
-            CHECK.due("new: distance(n, n)", net.distance(node, node), -1);
-            CHECK.due("new: crash(n)", net.crash(node), false);
-        }
-        CHECK.due("new: flying()", net.flying(), 0);
-        CHECK.due("new: settled()", net.settled(), true);
-        CHECK.due("new: packet(0, 0)", net.packet(0, 0), -1);
-        CHECK.wrongArgument("new: fail(0, 1)", () -> net.fail(0, 1));
-        CHECK.due("new: tick(1)", net.tick(1), 1);
-        CHECK.due("new: link(6, 7, 1, 1)", net.link(6, 7, 1, 1), 1);
-        CHECK.due("two objects share nothing", new FloodingNet().tick(1), 1);
-    }
-
-    private static void linkCounts() {
-        FloodingNet net = new FloodingNet();
-        CHECK.due("link(0, 1, 1, 1)", net.link(0, 1, 1, 1), 1);
-        CHECK.due("link(2, 1, 50, 8)", net.link(2, 1, 50, 8), 2);
-        CHECK.due("link(7, 0, 50, 1)", net.link(7, 0, 50, 1), 3);
-        CHECK.due("a failed link counts: fail(0, 1)", net.fail(0, 1), true);
-        CHECK.due("link(7, 1, 1, 8)", net.link(7, 1, 1, 8), 4);
-    }
-
-    private static void linkRefusesWrongArguments() {
-        FloodingNet net = new FloodingNet();
-        int[][] wrong = {
-            {-1, 0, 1, 1}, {8, 0, 1, 1}, {0, -1, 1, 1}, {0, 8, 1, 1}, {3, 3, 1, 1},
-            {0, 1, 0, 1}, {0, 1, 51, 1}, {0, 1, 1, 0}, {0, 1, 1, 9}, {0, 1, -5, 1}, {0, 1, 1, -5},
-            {Integer.MIN_VALUE, 1, 1, 1}, {Integer.MAX_VALUE, 1, 1, 1}, {1, Integer.MIN_VALUE, 1, 1},
-            {0, 1, Integer.MIN_VALUE, 1}, {0, 1, 1, Integer.MAX_VALUE},
-        };
-        for (int[] w : wrong) {
-            CHECK.wrongArgument("link" + java.util.Arrays.toString(w), () -> net.link(w[0], w[1], w[2], w[3]));
-        }
-        CHECK.due("none was made", net.link(0, 1, 1, 1), 1);
-    }
-
-    private static void linkRefusesInWrongState() {
-        FloodingNet net = new FloodingNet();
-        net.link(0, 1, 1, 1);
-        CHECK.wrongState("the same link again", () -> net.link(0, 1, 2, 2));
-        CHECK.wrongState("the same link the other way", () -> net.link(1, 0, 1, 1));
-        net.fail(0, 1);
-        CHECK.wrongState("a link that is down is there", () -> net.link(0, 1, 1, 1));
-
-        FloodingNet full = Nets.full();
-        CHECK.wrongState("a 13th link", () -> full.link(2, 3, 1, 1));
-        CHECK.wrongState("one of the twelve again", () -> full.link(0, 1, 1, 1));
-    }
-
-    private static void linkTestsArgumentsFirst() {
-        FloodingNet full = Nets.full();
-        CHECK.wrongArgument("13th with cost 0", () -> full.link(2, 3, 0, 1));
-        CHECK.wrongArgument("again with delay 9", () -> full.link(0, 1, 1, 9));
-        CHECK.wrongArgument("13th from 2 to 2", () -> full.link(2, 2, 1, 1));
-    }
-
-    private static void linkThatThrowsChangesNothing() {
-        FloodingNet net = Nets.row(2);
-        CHECK.wrongState("link(0, 1, 9, 9) again", () -> net.link(0, 1, 9, 8));
-        CHECK.wrongArgument("link(0, 1, 0, 1)", () -> net.link(0, 1, 0, 1));
-        CHECK.due("nobody told", net.news(0, 0, 0), 2);
-        CHECK.due("nothing flies", net.flying(), 0);
-        net.crash(1);
-        net.start(1);
-        CHECK.due("the cost is as it was", net.news(0, 0, 11), 1);
-        net.tick(1);
-        CHECK.due("the delay is as it was", net.news(1, 0, 0), 4);
     }
 
     private static void linkComesUp() {
@@ -188,19 +108,6 @@ public final class LinksTest {
         CHECK.due("a link that is down tells no cost", net.news(0, 0, 2), 0);
         CHECK.due("1 still did not tell", net.news(1, 1, 0), 1);
         CHECK.due("nothing flies", net.flying(), 0);
-    }
-
-    private static void failAndRestoreNeedALink() {
-        FloodingNet net = Nets.row(2);
-        int[][] wrong = {
-            {0, 2}, {2, 3}, {0, 0}, {1, 1}, {-1, 0}, {0, -1}, {8, 0}, {0, 8}, {-1, 16}, {1, -7},
-            {Integer.MIN_VALUE, 0}, {0, Integer.MAX_VALUE},
-        };
-        for (int[] w : wrong) {
-            CHECK.wrongArgument("fail" + java.util.Arrays.toString(w), () -> net.fail(w[0], w[1]));
-            CHECK.wrongArgument("restore" + java.util.Arrays.toString(w), () -> net.restore(w[0], w[1]));
-        }
-        CHECK.due("nobody told", net.news(0, 0, 0), 2);
     }
 
     private static void restoreTellsAndExchanges() {

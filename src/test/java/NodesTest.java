@@ -4,7 +4,6 @@ public final class NodesTest {
     private static final Check CHECK = new Check("NodesTest");
 
     public static void main(String[] args) {
-        wrongNodes();
         aloneNodeTellsItself();
         neighboursTellFirst();
         neighboursSendAllTheyKnow();
@@ -16,19 +15,6 @@ public final class NodesTest {
         crashMakesNeighboursTell();
         crashWithoutLinksThatCarry();
         CHECK.end();
-    }
-
-    private static void wrongNodes() {
-        FloodingNet net = new FloodingNet();
-        for (int node : new int[] {-1, 8, Integer.MIN_VALUE, Integer.MAX_VALUE}) {
-            CHECK.wrongArgument("start(" + node + ")", () -> net.start(node));
-            CHECK.wrongArgument("crash(" + node + ")", () -> net.crash(node));
-        }
-        CHECK.due("start(0)", net.start(0), true);
-        CHECK.due("start(7)", net.start(7), true);
-        CHECK.due("crash(7)", net.crash(7), true);
-        CHECK.due("crash(7) again", net.crash(7), false);
-        CHECK.due("crash(6), which never came", net.crash(6), false);
     }
 
     private static void aloneNodeTellsItself() {

@@ -1,41 +1,16 @@
-/** Promise 7: tick, and with it the growing old, the telling again, the forgetting and the receiving. */
+/** Promise 7: tick, with what happens in it and in which order; its bounds are in BoundsTest and TermsTest. */
 public final class TickTest {
 
     private static final Check CHECK = new Check("TickTest");
 
     public static void main(String[] args) {
-        answersTheTime();
-        refusesWrongNumbers();
         newsGrowsOld();
-        nodesTellAgainAt40();
-        newsIsForgottenAt60();
-        newsInFlightIsGoneAt60();
-        forgettingComesBeforeReceiving();
         newsFloodsFromHopToHop();
         olderNewsIsAnsweredWithNewer();
-        newerNewsTakesThePlaceInFlight();
         sameNewsInFlightIsNotSentAgain();
-        sameNewsInFlightKeepsItsTime();
         tellingAgainComesBeforeReceiving();
-        newsThatNoMoreArrivesIsNotReceived();
         newsIsReceivedBeforePackets();
         CHECK.end();
-    }
-
-    private static void answersTheTime() {
-        FloodingNet net = new FloodingNet();
-        CHECK.due("tick(1)", net.tick(1), 1);
-        CHECK.due("tick(50)", net.tick(50), 51);
-        CHECK.due("tick(7)", net.tick(7), 58);
-    }
-
-    private static void refusesWrongNumbers() {
-        FloodingNet net = Nets.nodes(1);
-        for (int n : new int[] {0, -1, 51, Integer.MIN_VALUE, Integer.MAX_VALUE}) {
-            CHECK.wrongArgument("tick(" + n + ")", () -> net.tick(n));
-        }
-        CHECK.due("no time went by", net.news(0, 0, 1), 0);
-        CHECK.due("tick(1)", net.tick(1), 1);
     }
 
     private static void newsGrowsOld() {
@@ -47,72 +22,6 @@ public final class TickTest {
         CHECK.due("news grew old in flight", net.news(1, 0, 1), 5);
         net.tick(34);
         CHECK.due("39 old", net.news(1, 0, 1), 39);
-    }
-
-    private static void nodesTellAgainAt40() {
-        FloodingNet net = Nets.nodes(2);
-        net.link(0, 1, 1, 3);
-        net.tick(39);
-        CHECK.due("no new news at 39", net.news(0, 0, 0), 2);
-        CHECK.due("39 old", net.news(0, 0, 1), 39);
-        net.tick(1);
-        CHECK.due("new news at 40", net.news(0, 0, 0), 3);
-        CHECK.due("which is 0 old", net.news(0, 0, 1), 0);
-        CHECK.due("1 told too", net.news(1, 1, 0), 3);
-        CHECK.due("both fly", net.flying(), 2);
-        CHECK.due("1 knows the old one", net.news(1, 0, 1), 40);
-        net.tick(3);
-        CHECK.due("1 knows the new one", net.news(1, 0, 1), 3);
-        CHECK.due("tick(37)", net.tick(37), 80);
-        CHECK.due("and again at 80", net.news(0, 0, 0), 4);
-    }
-
-    private static void newsIsForgottenAt60() {
-        FloodingNet net = Nets.nodes(2);
-        net.link(0, 1, 1, 1);
-        net.tick(1);
-        net.crash(1);
-        net.tick(50);
-        net.tick(8);
-        CHECK.due("news of 1 is 59 old", net.news(0, 1, 1), 59);
-        CHECK.due("0 told again at 41", net.news(0, 0, 1), 18);
-        net.tick(1);
-        CHECK.due("news of 1 is forgotten", net.news(0, 1, 0), -1);
-        CHECK.due("nothing of it is left", net.news(0, 1, 10), -1);
-        CHECK.due("news of 0 itself is not", net.news(0, 0, 0), 4);
-    }
-
-    /** 0 knows news of the gone node 2 that is 55 old, and sends it to 1 over a new link. */
-    private static FloodingNet oldNewsInFlight(int delay) {
-        FloodingNet net = Nets.nodes(3);
-        net.link(0, 2, 1, 1);
-        net.tick(1);
-        net.crash(2);
-        net.tick(50);
-        net.tick(4);
-        net.link(0, 1, 1, delay);
-        return net;
-    }
-
-    private static void newsInFlightIsGoneAt60() {
-        FloodingNet net = oldNewsInFlight(8);
-        CHECK.due("news of 0, 1 and 2 flies", net.flying(), 3);
-        net.tick(4);
-        CHECK.due("still at 59", net.flying(), 3);
-        net.tick(1);
-        CHECK.due("no more at 60", net.flying(), 2);
-        net.tick(3);
-        CHECK.due("1 never heard of 2", net.news(1, 2, 0), -1);
-    }
-
-    private static void forgettingComesBeforeReceiving() {
-        FloodingNet late = oldNewsInFlight(5);
-        late.tick(5);
-        CHECK.due("news that is 60 old when it arrives is gone", late.news(1, 2, 0), -1);
-
-        FloodingNet inTime = oldNewsInFlight(4);
-        inTime.tick(4);
-        CHECK.due("news that is 59 old is received", inTime.news(1, 2, 1), 59);
     }
 
     private static void newsFloodsFromHopToHop() {
@@ -157,23 +66,6 @@ public final class TickTest {
         CHECK.due("settled", net.settled(), true);
     }
 
-    /** 0 - 1 with delay 8: 0 tells (2) as the link comes up, and once more (3) as 2 comes. */
-    private static void newerNewsTakesThePlaceInFlight() {
-        FloodingNet net = Nets.nodes(2);
-        net.link(0, 1, 1, 8);
-        net.link(0, 2, 1, 1);
-        net.tick(3);
-        CHECK.due("flying", net.flying(), 2);
-        net.start(2);
-        CHECK.due("in place of what was there", net.flying(), 4);
-        net.tick(5);
-        CHECK.due("1 did not hear at 8", net.news(1, 0, 0), -1);
-        net.tick(2);
-        CHECK.due("nor at 10", net.news(1, 0, 0), -1);
-        net.tick(1);
-        CHECK.due("but at 11", net.news(1, 0, 0), 3);
-    }
-
     private static void sameNewsInFlightIsNotSentAgain() {
         // As the link comes up, 0 tells and then sends all it knows: its own news flies already.
         FloodingNet net = Nets.nodes(2);
@@ -193,22 +85,6 @@ public final class TickTest {
         CHECK.due("3 knows the new news of 0", two.news(3, 0, 15), 1);
         // Five from 0 to 5 and one back; from 3 one to 4 and one to 2, as it came over 1 first.
         CHECK.due("flying", two.flying(), 8);
-    }
-
-    private static void sameNewsInFlightKeepsItsTime() {
-        FloodingNet net = Nets.nodes(4);
-        net.link(1, 2, 1, 4);
-        net.link(2, 3, 1, 1);
-        net.tick(10);
-        net.fail(1, 2);
-        net.link(3, 4, 1, 1);
-        net.start(4);
-        net.tick(5);
-        CHECK.due("1 knows older news of 3", net.news(1, 3, 0), 2);
-        net.restore(1, 2);
-        net.tick(4);
-        // 2 received the older news first and would answer it, but its own was in flight until then.
-        CHECK.due("1 knows the newer in time", net.news(1, 3, 0), 3);
     }
 
     /**
@@ -241,26 +117,6 @@ public final class TickTest {
         CHECK.due("with the number 4", net.news(2, 2, 0), 4);
         net.tick(2);
         CHECK.due("and no more", net.news(2, 2, 0), 4);
-    }
-
-    private static void newsThatNoMoreArrivesIsNotReceived() {
-        FloodingNet net = Nets.nodes(4);
-        net.link(0, 1, 1, 1);
-        net.link(1, 2, 1, 2);
-        net.link(0, 3, 1, 8);
-        net.tick(20);
-        CHECK.due("2 knows number 3 of 0", net.news(2, 0, 0), 3);
-        net.fail(0, 3);
-        net.tick(2);
-        net.restore(0, 3);
-        net.tick(1);
-        // Number 4 was to arrive at 2 now, but 1 has just received number 5 and sent it in its place.
-        CHECK.due("1 knows number 5", net.news(1, 0, 0), 5);
-        CHECK.due("2 still knows number 3", net.news(2, 0, 0), 3);
-        net.tick(1);
-        CHECK.due("nor a tick later", net.news(2, 0, 0), 3);
-        net.tick(1);
-        CHECK.due("2 knows number 5", net.news(2, 0, 0), 5);
     }
 
     private static void newsIsReceivedBeforePackets() {
