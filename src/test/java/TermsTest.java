@@ -9,6 +9,7 @@ public final class TermsTest {
         oneOfEachOrigin();
         onePieceInEachDirection();
         theSameNumberInFlight();
+        aNewerNumberInFlight();
         anOlderNumberInFlight();
         arrivesByTheDelay();
         newsSixtyOldIsForgotten();
@@ -130,6 +131,43 @@ public final class TermsTest {
         net.tick(1);
         CHECK.due("then the newer", net.news(1, 3, 0), 3);
         CHECK.due("of 3 nothing flies; that of 1 goes to 3, that of 3's link to 4 is known", net.flying(), 1);
+    }
+
+    /**
+     * 1 sends 0 the number 2 of 2, which came a second time. Then the number 4 of 2's first time, which 0 had kept,
+     * reaches 1 and is forgotten a tick later: so 1 takes the number 1 of 2's third time, while number 2 still flies.
+     */
+    private static void aNewerNumberInFlight() {
+        CHECK.sentence("if some of that origin is in flight there that is newer .. nothing");
+        FloodingNet net = Nets.nodes(3);
+        net.link(0, 1, 1, 8);
+        net.link(1, 2, 1, 4);
+        net.tick(20);
+        net.fail(1, 2);
+        net.restore(1, 2);
+        net.tick(12);
+        CHECK.due("0 knows number 4", net.news(0, 2, 0), 4);
+        net.crash(1);
+        net.crash(2);
+        net.tick(39);
+        net.start(2);
+        net.start(1);
+        net.tick(7);
+        CHECK.due("1 knows number 2", net.news(1, 2, 0), 2);
+        net.crash(2);
+        net.start(2);
+        net.tick(1);
+        CHECK.due("1 knows number 4, 59 old", net.news(1, 2, 1), 59);
+        net.tick(1);
+        CHECK.due("1 knows none", net.news(1, 2, 0), -1);
+        CHECK.due("0 knows none", net.news(0, 2, 0), -1);
+        net.tick(2);
+        CHECK.due("1 knows number 1", net.news(1, 2, 0), 1);
+        CHECK.due("0 still knows none", net.news(0, 2, 0), -1);
+        net.tick(1);
+        CHECK.due("0 knows number 2, as it flew on", net.news(0, 2, 0), 2);
+        net.tick(8);
+        CHECK.due("and number 1 never came", net.news(0, 2, 1), 20);
     }
 
     private static void anOlderNumberInFlight() {
