@@ -39,6 +39,7 @@ public final class BoundsTest {
         settledDirectly();
         settledOverOthers();
         settledApart();
+        settledOfNodesOutside();
         CHECK.end();
     }
 
@@ -663,5 +664,34 @@ public final class BoundsTest {
         CHECK.due("1 knows older news of 0, which is not there", net.settled(), true);
         net.start(5);
         CHECK.due("5 knows nothing of the others, alone", net.settled(), true);
+    }
+
+    /**
+     * 0 and 1 know the number 2 of 2, each from another time that 2 came. So they have nothing to send one another
+     * about it, and 0 forgets it while 1 knows it.
+     */
+    private static void settledOfNodesOutside() {
+        CHECK.sentence("14: .. know the same numbers of each other");
+        FloodingNet net = Nets.nodes(3);
+        net.link(0, 2, 1, 1);
+        net.tick(1);
+        net.crash(2);
+        net.fail(0, 2);
+        net.tick(30);
+        net.start(2);
+        net.link(1, 2, 1, 1);
+        net.tick(1);
+        net.fail(1, 2);
+        net.link(0, 1, 1, 1);
+        net.tick(27);
+        CHECK.due("0 knows a number of 2", net.news(0, 2, 0), 2);
+        CHECK.due("1 knows the same", net.news(1, 2, 0), 2);
+        CHECK.due("though 2 made a newer one", net.settled(), true);
+        net.tick(1);
+        CHECK.due("0 knows none", net.news(0, 2, 0), -1);
+        CHECK.due("1 knows one", net.news(1, 2, 0), 2);
+        CHECK.due("but 2 is not joined with them", net.settled(), true);
+        net.crash(2);
+        CHECK.due("nor is it when it is not there", net.settled(), true);
     }
 }
